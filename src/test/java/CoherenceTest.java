@@ -1,0 +1,97 @@
+import java.util.Random;
+
+/** Long mixed runs in each protocol: against the model, and against what coherence itself asks. */
+public final class CoherenceTest {
+    private static final int RUNS = 60;
+    private static final int CALLS = 400;
+
+    private final Due due = new Due();
+    private final Random random = new Random(20261115L);
+
+    public static void main(String[] args) {
+        CoherenceTest test = new CoherenceTest();
+        for (int run = 0; run < RUNS; run++) {
+            // Few addresses make the caches meet; all of them make the lines change hands.
+            test.run(run % 4, run % 3 == 0 ? 32 : run % 3 == 1 ? 4 : 10);
+        }
+        test.due.end();
+    }
+
+    private void run(int protocol, int addresses) {
+        SnoopBus bus = Due.bus(protocol);
+        Model model = new Model(protocol);
+        for (int call = 0; call < CALLS; call++) {
+            step(bus, model, addresses);
+            compare(bus, model);
+            compareRules(bus, model);
+        }
+    }
+
+    private void step(SnoopBus bus, Model model, int addresses) {
+        int processor = random.nextInt(4);
+        int address = random.nextInt(addresses);
+        int kind = random.nextInt(40);
+        if (kind < 16) {
+            int word = bus.read(processor, address);
+            due.same("read against the model", word, model.read(processor, address));
+            due.same("read against what was written last", word, model.lastWritten[address]);
+        } else if (kind < 32) {
+            int word = random.nextInt(9) - 4;
+            due.same("write", bus.write(processor, address, word), model.write(processor, address, word));
+        } else if (kind < 39) {
+            evict(bus, model, processor, address / 2);
+        } else {
+            due.same("flush", bus.flush(), model.flush());
+        }
+    }
+
+    private void evict(SnoopBus bus, Model model, int processor, int block) {
+        if (model.holds(processor, block)) {
+            due.same("evict", bus.evict(processor, block), model.evict(processor, block));
+        } else {
+            due.refuses("evict", bus, IllegalStateException.class, () -> bus.evict(processor, block));
+        }
+    }
+
+    private void compare(SnoopBus bus, Model model) {
+        due.same("protocol", bus.protocol(), model.protocol);
+        due.same("hits", bus.hits(), model.hits);
+        due.same("misses", bus.misses(), model.misses);
+        for (int k = 0; k < 8; k++) {
+            due.same("latest", bus.latest(k), model.latest(k));
+        }
+        for (int kind = 0; kind < 5; kind++) {
+            due.same("count", bus.count(kind), model.count(kind));
+        }
+        for (int address = 0; address < 32; address++) {
+            due.same("memory", bus.memory(address), model.memory[address]);
+            for (int processor = 0; processor < 4; processor++) {
+                due.same("cached", bus.cached(processor, address), model.cached(processor, address));
+                due.same("state", bus.state(processor, address / 2), model.state(processor, address / 2));
+            }
+        }
+    }
+
+    /** Every copy is of the last write, a block has one dirty holder at most, and 2 and 4 are held alone. */
+    private void compareRules(SnoopBus bus, Model model) {
+        for (int address = 0; address < 32; address++) {
+            int holders = 0;
+            int dirty = 0;
+            boolean mustBeAlone = false;
+            for (int processor = 0; processor < 4; processor++) {
+                int state = bus.state(processor, address / 2);
+                holders += state > 0 ? 1 : 0;
+                dirty += state > 2 ? 1 : 0;
+                mustBeAlone |= state == 2 || state == 4;
+                if (state > 0) {
+                    due.same("a copy", bus.cached(processor, address), model.lastWritten[address]);
+                }
+            }
+            due.same("one dirty holder at most", dirty <= 1, true);
+            due.same("alone where it must be", !mustBeAlone || holders == 1, true);
+            if (dirty == 0) {
+                due.same("memory where no holder is dirty", bus.memory(address), model.lastWritten[address]);
+            }
+        }
+    }
+}

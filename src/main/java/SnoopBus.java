@@ -184,7 +184,9 @@ public final class SnoopBus {
     }
 
     private void transact(int kind, int processor, int block) {
-        System.arraycopy(recent, 0, recent, 1, REMEMBERED - 1);
+        for (int k = REMEMBERED - 1; k > 0; k--) {
+            recent[k] = recent[k - 1];
+        }
         recent[0] = 64 * kind + 16 * processor + block;
         kindCounts[kind]++;
         transactions++;

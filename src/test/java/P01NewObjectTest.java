@@ -2,13 +2,11 @@
 public final class P01NewObjectTest {
     public static void main(String[] args) {
         Due due = new Due();
-        SnoopBus fresh = new SnoopBus();
-        String atFirst = Due.look(fresh);
         SnoopBus chosen = Due.bus(3);
         chosen.write(1, 7, 9);
         chosen.choose(0);
-        due.same("a new object", atFirst, Due.look(chosen));
-        due.same("asked again", Due.look(fresh), atFirst);
+        due.same("all questions of a new object", Due.look(new SnoopBus()), Due.look(chosen));
+        SnoopBus fresh = new SnoopBus();
         due.same("protocol()", fresh.protocol(), 0);
         due.counts("of a new object", fresh, "0 0 0 0 0");
         due.same("hits()", fresh.hits(), 0);
@@ -24,10 +22,9 @@ public final class P01NewObjectTest {
     private static void objectsAreApart(Due due) {
         SnoopBus one = new SnoopBus();
         SnoopBus other = new SnoopBus();
-        String before = Due.look(other);
         one.choose(2);
         one.write(0, 0, 5);
         one.flush();
-        due.same("an object after calls on another", Due.look(other), before);
+        due.same("an object after calls on another", Due.look(other), Due.look(new SnoopBus()));
     }
 }

@@ -4,7 +4,7 @@ public final class P02ChooseTest {
         Due due = new Due();
         for (int before = 0; before < 4; before++) {
             for (int protocol = 0; protocol < 4; protocol++) {
-                SnoopBus bus = usedBus(before);
+                SnoopBus bus = Due.used(before);
                 due.same("choose(" + protocol + ")", bus.choose(protocol), true);
                 due.same("protocol()", bus.protocol(), protocol);
                 due.same("all questions after choose", Due.look(bus), Due.look(Due.bus(protocol)));
@@ -12,24 +12,11 @@ public final class P02ChooseTest {
                 due.same("read after choose", bus.read(2, 9), 0);
             }
             for (int protocol : new int[] {-1, 4, 5, Integer.MIN_VALUE, Integer.MAX_VALUE}) {
-                SnoopBus bus = usedBus(before);
-                String all = Due.look(bus);
+                SnoopBus bus = Due.used(before);
                 due.same("choose(" + protocol + ")", bus.choose(protocol), false);
-                due.same("all questions after a refused choose", Due.look(bus), all);
+                due.same("all questions after a refused choose", Due.look(bus), Due.look(Due.used(before)));
             }
         }
         due.end();
-    }
-
-    private static SnoopBus usedBus(int protocol) {
-        SnoopBus bus = Due.bus(protocol);
-        bus.write(0, 6, 11);
-        bus.read(1, 6);
-        bus.write(1, 7, 12);
-        bus.write(1, 7, 13);
-        bus.write(3, 8, 14);
-        bus.evict(3, 4);
-        bus.write(3, 9, 15);
-        return bus;
     }
 }

@@ -1,3 +1,5 @@
+import java.util.function.Supplier;
+
 /** Promise 4: read is a read access, in each protocol. */
 public final class P04ReadTest {
     private static final String[] FIRST_READER = {"1000", "2000", "2000", "2000"};
@@ -9,6 +11,7 @@ public final class P04ReadTest {
             readOfMemory(due, protocol);
             readFromDirtyHolder(due, protocol);
             readOverOtherBlock(due, protocol);
+            readBesideDirtyBlock(due, protocol);
             readOfEveryAddress(due, protocol);
             wrongInputs(due, protocol);
         }
@@ -76,6 +79,16 @@ public final class P04ReadTest {
         due.same("read(1, 2)", bus.read(1, 2), 5);
     }
 
+    private static void readBesideDirtyBlock(Due due, int protocol) {
+        SnoopBus bus = Due.bus(protocol);
+        bus.write(0, 6, 8);
+        bus.write(0, 2, 5);
+        due.same("read(1, 6), another block dirty in the same line elsewhere", bus.read(1, 6), 8);
+        due.states("of the dirty block", bus, 1, "4000");
+        due.same("memory(2)", bus.memory(2), 0);
+        due.same("state(1, 3), read alone", bus.state(1, 3), protocol == 0 ? 1 : 2);
+    }
+
     private static void readOfEveryAddress(Due due, int protocol) {
         SnoopBus bus = Due.bus(protocol);
         for (int address = 0; address < 32; address++) {
@@ -87,16 +100,15 @@ public final class P04ReadTest {
     }
 
     private static void wrongInputs(Due due, int protocol) {
-        SnoopBus bus = Due.bus(protocol);
-        bus.write(0, 0, 1);
+        Supplier<SnoopBus> make = () -> Due.used(protocol);
         for (int processor : Due.NO_PROCESSORS) {
-            due.refuses("read(" + processor + ", 0)", bus, IllegalArgumentException.class,
-                    () -> bus.read(processor, 0));
+            due.refuses("read(" + processor + ", 0)", IllegalArgumentException.class, make,
+                    bus -> bus.read(processor, 0));
         }
         for (int address : Due.NO_ADDRESSES) {
-            due.refuses("read(0, " + address + ")", bus, IllegalArgumentException.class,
-                    () -> bus.read(0, address));
+            due.refuses("read(0, " + address + ")", IllegalArgumentException.class, make,
+                    bus -> bus.read(0, address));
         }
-        due.refuses("read(4, 32)", bus, IllegalArgumentException.class, () -> bus.read(4, 32));
+        due.refuses("read(4, 32)", IllegalArgumentException.class, make, bus -> bus.read(4, 32));
     }
 }

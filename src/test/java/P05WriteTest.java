@@ -1,3 +1,5 @@
+import java.util.function.Supplier;
+
 /** Promise 5: write is a write access, in each protocol, and answers how many transactions it needed. */
 public final class P05WriteTest {
     public static void main(String[] args) {
@@ -177,17 +179,15 @@ public final class P05WriteTest {
     }
 
     private static void wrongInputs(Due due, int protocol) {
-        SnoopBus bus = Due.bus(protocol);
-        bus.write(0, 0, 1);
-        bus.read(1, 0);
+        Supplier<SnoopBus> make = () -> Due.used(protocol);
         for (int processor : Due.NO_PROCESSORS) {
-            due.refuses("write(" + processor + ", 0, 2)", bus, IllegalArgumentException.class,
-                    () -> bus.write(processor, 0, 2));
+            due.refuses("write(" + processor + ", 0, 2)", IllegalArgumentException.class, make,
+                    bus -> bus.write(processor, 0, 2));
         }
         for (int address : Due.NO_ADDRESSES) {
-            due.refuses("write(0, " + address + ", 2)", bus, IllegalArgumentException.class,
-                    () -> bus.write(0, address, 2));
+            due.refuses("write(0, " + address + ", 2)", IllegalArgumentException.class, make,
+                    bus -> bus.write(0, address, 2));
         }
-        due.refuses("write(-1, -1, 2)", bus, IllegalArgumentException.class, () -> bus.write(-1, -1, 2));
+        due.refuses("write(-1, -1, 2)", IllegalArgumentException.class, make, bus -> bus.write(-1, -1, 2));
     }
 }

@@ -1,3 +1,5 @@
+import java.util.function.Supplier;
+
 /** Promise 6: evict empties the line that holds a block and answers whether a BACK was needed. */
 public final class P06EvictTest {
     public static void main(String[] args) {
@@ -27,7 +29,7 @@ public final class P06EvictTest {
         due.same("count(4)", bus.count(4), 1);
         due.same("hits()", bus.hits(), 1);
         due.same("misses()", bus.misses(), 2);
-        due.refuses("evict(2, 11) again", bus, IllegalStateException.class, () -> bus.evict(2, 11));
+        due.throwing("evict(2, 11) again", IllegalStateException.class, bus, x -> x.evict(2, 11));
     }
 
     private static void evictOfClean(Due due, int protocol) {
@@ -53,21 +55,27 @@ public final class P06EvictTest {
     }
 
     private static void wrongInputs(Due due, int protocol) {
-        SnoopBus bus = Due.bus(protocol);
-        bus.write(0, 4, 1);
+        Supplier<SnoopBus> make = () -> Due.used(protocol);
         for (int processor : Due.NO_PROCESSORS) {
-            due.refuses("evict(" + processor + ", 2)", bus, IllegalArgumentException.class,
-                    () -> bus.evict(processor, 2));
+            due.refuses("evict(" + processor + ", 3)", IllegalArgumentException.class, make,
+                    bus -> bus.evict(processor, 3));
         }
         for (int block : Due.NO_BLOCKS) {
-            due.refuses("evict(0, " + block + ")", bus, IllegalArgumentException.class,
-                    () -> bus.evict(0, block));
+            due.refuses("evict(1, " + block + ")", IllegalArgumentException.class, make,
+                    bus -> bus.evict(1, block));
         }
-        due.refuses("evict(0, 4), another block in the line", bus, IllegalStateException.class,
-                () -> bus.evict(0, 4));
-        due.refuses("evict(1, 2), another cache has it", bus, IllegalStateException.class,
-                () -> bus.evict(1, 2));
-        due.refuses("evict(3, 15), an empty line", bus, IllegalStateException.class,
-                () -> bus.evict(3, 15));
+        due.refuses("evict(-1, 16)", IllegalArgumentException.class, make, bus -> bus.evict(-1, 16));
+        notHeld(due, make, 1, 5, "another block in the line");
+        notHeld(due, make, 2, 3, "another cache has it");
+        notHeld(due, make, 2, 15, "an empty line");
+        notHeld(due, make, 2, 0, "an empty line");
+        if (protocol < 3) {
+            notHeld(due, make, 0, 3, "another cache has taken it");
+        }
+    }
+
+    private static void notHeld(Due due, Supplier<SnoopBus> make, int processor, int block, String why) {
+        due.refuses("evict(" + processor + ", " + block + "), " + why, IllegalStateException.class, make,
+                bus -> bus.evict(processor, block));
     }
 }

@@ -12,9 +12,8 @@ public final class P07FlushTest {
 
     private static void flushOfNothing(Due due, int protocol) {
         SnoopBus bus = Due.bus(protocol);
-        String before = Due.look(bus);
         due.same("flush() of a new object", bus.flush(), 0);
-        due.same("all questions after it", Due.look(bus), before);
+        due.same("all questions after it", Due.look(bus), Due.look(Due.bus(protocol)));
         bus.read(0, 0);
         bus.read(3, 3);
         due.same("flush() of clean lines", bus.flush(), 0);

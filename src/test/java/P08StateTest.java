@@ -20,7 +20,9 @@ public final class P08StateTest {
         for (int block : Due.NO_BLOCKS) {
             due.same("state(0, " + block + ")", bus.state(0, block), -1);
         }
-        questionsChangeNothing(due, bus);
+        for (int protocol = 0; protocol < 4; protocol++) {
+            questionsChangeNothing(due, Due.used(protocol));
+        }
         due.end();
     }
 

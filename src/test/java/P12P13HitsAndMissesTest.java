@@ -19,7 +19,7 @@ public final class P12P13HitsAndMissesTest {
             int misses = bus.misses();
             bus.write(0, 11, 4);
             both(due, "after a write hit of a shared block", bus, hits + 1, misses);
-            callsThatAreNoAccess(bus);
+            callsThatAreNoAccess(due, bus);
             both(due, "after calls that are no access", bus, hits + 1, misses);
             bus.read(0, 10);
             both(due, "after a flush and a read", bus, hits + 1, misses + 1);
@@ -35,20 +35,13 @@ public final class P12P13HitsAndMissesTest {
         due.same("misses() " + when, bus.misses(), misses);
     }
 
-    private static void callsThatAreNoAccess(SnoopBus bus) {
+    private static void callsThatAreNoAccess(Due due, SnoopBus bus) {
         Due.look(bus);
         bus.evict(0, 5);
         bus.flush();
         bus.choose(-1);
-        try {
-            bus.read(0, 32);
-        } catch (IllegalArgumentException expected) {
-            Due.look(bus);
-        }
-        try {
-            bus.write(4, 0, 1);
-        } catch (IllegalArgumentException expected) {
-            Due.look(bus);
-        }
+        due.throwing("read(0, 32)", IllegalArgumentException.class, bus, x -> x.read(0, 32));
+        due.throwing("write(4, 0, 1)", IllegalArgumentException.class, bus, x -> x.write(4, 0, 1));
+        due.throwing("evict(0, 0)", IllegalStateException.class, bus, x -> x.evict(0, 0));
     }
 }

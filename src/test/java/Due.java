@@ -41,6 +41,24 @@ final class Due {
         }
     }
 
+    /**
+     * The test of one sentence of the document. It stands alone: whatever goes wrong in it is told with
+     * the sentence, and the next one is still looked at.
+     */
+    void sentence(String words, Runnable test) {
+        int askedBefore = asked;
+        int wrongBefore = wrong;
+        try {
+            test.run();
+        } catch (RuntimeException e) {
+            same("a call", e.toString(), "an answer");
+        }
+        if (asked == askedBefore) {
+            same("the test of the sentence", "nothing asked", "something asked");
+        }
+        System.out.println((wrong == wrongBefore ? "  ok: " : "  FAILED: ") + words);
+    }
+
     void throwing(String call, Class<?> want, SnoopBus bus, Consumer<SnoopBus> attempt) {
         Object got = "nothing thrown";
         try {

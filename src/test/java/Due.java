@@ -106,23 +106,28 @@ final class Due {
      * may look twice and do little else.
      */
     static String look(SnoopBus bus) {
-        StringBuilder all = new StringBuilder("protocol ").append(bus.protocol());
-        all.append(" hits ").append(bus.hits()).append(" misses ").append(bus.misses());
+        return look(() -> bus);
+    }
+
+    /** The same, each question asked of an object that the maker gives for it. */
+    static String look(Supplier<SnoopBus> maker) {
+        StringBuilder all = new StringBuilder("protocol ").append(maker.get().protocol());
+        all.append(" hits ").append(maker.get().hits()).append(" misses ").append(maker.get().misses());
         for (int kind = 0; kind < 5; kind++) {
-            all.append(" count ").append(bus.count(kind));
+            all.append(" count ").append(maker.get().count(kind));
         }
         for (int k = 0; k < 8; k++) {
-            all.append(" latest ").append(bus.latest(k));
+            all.append(" latest ").append(maker.get().latest(k));
         }
         for (int address = 0; address < 32; address++) {
-            all.append(" memory ").append(bus.memory(address));
+            all.append(" memory ").append(maker.get().memory(address));
         }
         for (int processor = 0; processor < 4; processor++) {
             for (int block = 0; block < 16; block++) {
-                all.append(" state ").append(bus.state(processor, block));
+                all.append(" state ").append(maker.get().state(processor, block));
             }
             for (int address = 0; address < 32; address++) {
-                all.append(" cached ").append(bus.cached(processor, address));
+                all.append(" cached ").append(maker.get().cached(processor, address));
             }
         }
         return all.toString();

@@ -16,10 +16,10 @@ public final class EdgesOfAccessTest {
         due.sentence("At a miss the block is loaded first: by a READ if it updates", this::missByRead);
         due.sentence("MODIFIED stays", this::modifiedStays);
         due.sentence("EXCLUSIVE becomes MODIFIED", this::exclusiveBecomesModified);
-        due.sentence("SHARED or OWNED: if the protocol invalidates, an UPGRADE: all other holders' lines are emptied "
-                + "without a BACK, and the state becomes MODIFIED", this::upgrade);
+        due.sentence("SHARED or OWNED: if the protocol invalidates, an UPGRADE: all other holders' lines are emptied, "
+                + "and the state becomes MODIFIED", this::upgrade);
+        due.sentence("[by an UPGRADE a line that is OWNED is emptied] without a BACK", this::upgradeBesideOwner);
         due.sentence("[an UPGRADE where there are no others]", this::upgradeWithoutOthers);
-        due.sentence("[an UPGRADE of a SHARED line beside the OWNED one]", this::upgradeBesideOwner);
         due.sentence("if it updates, an UPDATE: all other holders get the new word", this::updateGivesTheWord);
         due.sentence("[by an UPDATE all other holders] become SHARED", this::updateMakesOthersShared);
         due.sentence("the state becomes OWNED if there are others", this::updateWithOthers);

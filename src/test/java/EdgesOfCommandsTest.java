@@ -28,20 +28,25 @@ public final class EdgesOfCommandsTest {
 
     private void readAndWrite() {
         due.sentence("4: A read access: the word", this::readWord);
-        due.sentence("4: IllegalArgumentException if there is no such processor", () -> noProcessor((bus, p) -> bus.read(p, 0)));
-        due.sentence("4: IllegalArgumentException if there is no such address", () -> noAddress((bus, a) -> bus.read(0, a)));
+        due.sentence("4: IllegalArgumentException if there is no such processor",
+                () -> noProcessor((bus, p) -> bus.read(p, 0)));
+        due.sentence("4: IllegalArgumentException if there is no such address",
+                () -> noAddress((bus, a) -> bus.read(0, a)));
         due.sentence("5: how many transactions it needed: none", this::writeWithoutTransaction);
         due.sentence("5: how many transactions it needed: the most there can be", this::writeWithMost);
         due.sentence("5: (Also of a word that it has already)", this::writeOfTheSameWord);
         due.sentence("5: (a BACK counts)", this::backCounts);
-        due.sentence("5: IllegalArgumentException if there is no such processor", () -> noProcessor((bus, p) -> bus.write(p, 0, 7)));
-        due.sentence("5: IllegalArgumentException if there is no such address", () -> noAddress((bus, a) -> bus.write(0, a, 7)));
+        due.sentence("5: IllegalArgumentException if there is no such processor",
+                () -> noProcessor((bus, p) -> bus.write(p, 0, 7)));
+        due.sentence("5: IllegalArgumentException if there is no such address",
+                () -> noAddress((bus, a) -> bus.write(0, a, 7)));
     }
 
     private void evictAndFlush() {
         due.sentence("6: The processor's line that holds the block is emptied", this::evictEmptiesOneLine);
         due.sentence("6: whether a BACK was needed", this::evictTellsBack);
-        due.sentence("6: IllegalArgumentException if there is no such processor", () -> noProcessor((bus, p) -> bus.evict(p, 0)));
+        due.sentence("6: IllegalArgumentException if there is no such processor",
+                () -> noProcessor((bus, p) -> bus.evict(p, 0)));
         due.sentence("6: IllegalArgumentException if there is no such block", this::evictOfNoBlock);
         due.sentence("6: else IllegalStateException if its cache does not hold the block", this::evictOfNotHeld);
         due.sentence("7: All lines of all caches that hold a block are emptied: all hold one", this::flushOfFull);
@@ -219,7 +224,8 @@ public final class EdgesOfCommandsTest {
     private void writeWithMost() {
         for (int protocol = 0; protocol < 4; protocol++) {
             SnoopBus bus = Fixtures.full(protocol);
-            due.same("write over a dirty block, of one that is dirty elsewhere", bus.write(1, 14, 9), protocol == 3 ? 3 : 2);
+            due.same("write over a dirty block, of one that is dirty elsewhere", bus.write(1, 14, 9),
+                    protocol == 3 ? 3 : 2);
             due.states("that was written", bus, 7, protocol == 3 ? "0301" : "0400");
             due.same("memory(6), by the BACK", bus.memory(6), 53);
             due.same("cached(1, 15), from the dirty holder", bus.cached(1, 15), 67);
@@ -256,7 +262,8 @@ public final class EdgesOfCommandsTest {
             for (int state = 1; state <= 4; state++) {
                 if (Fixtures.isReachable(protocol, state)) {
                     SnoopBus bus = Fixtures.holding(protocol, state);
-                    due.same("write over a block of state " + state, bus.write(1, 14, 9), Fixtures.isDirty(state) ? 2 : 1);
+                    due.same("write over a block of state " + state, bus.write(1, 14, 9),
+                            Fixtures.isDirty(state) ? 2 : 1);
                 }
             }
         }
@@ -353,7 +360,8 @@ public final class EdgesOfCommandsTest {
             bus.write(0, 3, 99);
             due.same("flush() of six lines", bus.flush(), 6);
             due.same("memory(3)", bus.memory(3), 99);
-            due.latest("after flush", bus, 256 + 48 + 6, 256 + 32 + 5, 256 + 32 + 4, 256 + 16 + 3, 256 + 16 + 2, 256 + 1);
+            due.latest("after flush", bus, 256 + 48 + 6, 256 + 32 + 5, 256 + 32 + 4,
+                    256 + 16 + 3, 256 + 16 + 2, 256 + 1);
         }
     }
 

@@ -82,14 +82,21 @@ public final class EdgesOfRefusedCallsTest {
     }
 
     private void asked(Consumer<SnoopBus> questions) {
-        for (int protocol = 0; protocol < 4; protocol++) {
-            SnoopBus full = Fixtures.full(protocol);
-            questions.accept(full);
-            due.same("all questions afterwards", Due.look(full), Due.look(Fixtures.full(protocol)));
-            SnoopBus used = Due.used(protocol);
-            questions.accept(used);
-            goesOnLike("after questions", used, Due.used(protocol));
+        for (int p = 0; p < 4; p++) {
+            int protocol = p;
+            askedOn(questions, () -> Fixtures.full(protocol));
+            askedOn(questions, () -> Due.used(protocol));
         }
+    }
+
+    /** What each question answers is set against an object that was asked that one question alone. */
+    private void askedOn(Consumer<SnoopBus> questions, Supplier<SnoopBus> make) {
+        SnoopBus bus = make.get();
+        questions.accept(bus);
+        due.same("all questions afterwards", Due.look(bus), Due.look(make));
+        SnoopBus again = make.get();
+        questions.accept(again);
+        goesOnLike("after questions", again, make.get());
     }
 
     /** The object does what its twin does that was not asked, also in what no question shows. */

@@ -25,7 +25,7 @@ public final class CoherenceTest {
         for (int call = 0; call < calls; call++) {
             step(bus, model, addresses);
         }
-        compare(bus, model);
+        model.compareAll(due, bus);
         checkRules(model);
     }
 
@@ -52,29 +52,6 @@ public final class CoherenceTest {
             due.same("evict", bus.evict(processor, block), model.evict(processor, block));
         } else {
             due.throwing("evict", IllegalStateException.class, bus, x -> x.evict(processor, block));
-        }
-    }
-
-    private void compare(SnoopBus bus, Model model) {
-        due.same("protocol", bus.protocol(), model.protocol);
-        due.same("hits", bus.hits(), model.hits);
-        due.same("misses", bus.misses(), model.misses);
-        for (int k = 0; k < 8; k++) {
-            due.same("latest", bus.latest(k), model.latest(k));
-        }
-        for (int kind = 0; kind < 5; kind++) {
-            due.same("count", bus.count(kind), model.count(kind));
-        }
-        for (int address = 0; address < 32; address++) {
-            due.same("memory", bus.memory(address), model.memory[address]);
-            for (int processor = 0; processor < 4; processor++) {
-                due.same("cached", bus.cached(processor, address), model.cached(processor, address));
-            }
-        }
-        for (int block = 0; block < 16; block++) {
-            for (int processor = 0; processor < 4; processor++) {
-                due.same("state", bus.state(processor, block), model.state(processor, block));
-            }
         }
     }
 

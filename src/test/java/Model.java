@@ -21,7 +21,7 @@ final class Model {
     final int protocol;
     final int[] memory = new int[32];
     final int[] lastWritten = new int[32];
-    final List<Integer> bus = new ArrayList<>();
+    private final List<Integer> said = new ArrayList<>();
     private final List<TreeMap<Integer, Copy>> holdersOfBlock = new ArrayList<>();
     int hits = 0;
     int misses = 0;
@@ -38,7 +38,7 @@ final class Model {
     }
 
     int write(int processor, int address, int word) {
-        int before = bus.size();
+        int before = said.size();
         int block = address / 2;
         Copy mine = access(processor, block, protocol == 3 ? 0 : 1);
         TreeMap<Integer, Copy> holders = holdersOfBlock.get(block);
@@ -57,7 +57,7 @@ final class Model {
         }
         mine.words[address % 2] = word;
         lastWritten[address] = word;
-        return bus.size() - before;
+        return said.size() - before;
     }
 
     boolean holds(int processor, int block) {
@@ -78,9 +78,9 @@ final class Model {
         int backs = 0;
         for (int processor = 0; processor < 4; processor++) {
             for (int line = 0; line < 2; line++) {
-                int before = bus.size();
+                int before = said.size();
                 clearLine(processor, line);
-                backs += bus.size() - before;
+                backs += said.size() - before;
             }
         }
         return backs;
@@ -96,11 +96,35 @@ final class Model {
     }
 
     int count(int kind) {
-        return (int) bus.stream().filter(t -> t / 64 == kind).count();
+        return (int) said.stream().filter(t -> t / 64 == kind).count();
     }
 
     int latest(int k) {
-        return k < bus.size() ? bus.get(bus.size() - 1 - k) : -1;
+        return k < said.size() ? said.get(said.size() - 1 - k) : -1;
+    }
+
+    /** Every question that can be asked of the bus, 240 calls, is answered as the model answers it. */
+    void compareAll(Due due, SnoopBus bus) {
+        due.same("protocol", bus.protocol(), protocol);
+        due.same("hits", bus.hits(), hits);
+        due.same("misses", bus.misses(), misses);
+        for (int k = 0; k < 8; k++) {
+            due.same("latest", bus.latest(k), latest(k));
+        }
+        for (int kind = 0; kind < 5; kind++) {
+            due.same("count", bus.count(kind), count(kind));
+        }
+        for (int address = 0; address < 32; address++) {
+            due.same("memory", bus.memory(address), memory[address]);
+            for (int processor = 0; processor < 4; processor++) {
+                due.same("cached", bus.cached(processor, address), cached(processor, address));
+            }
+        }
+        for (int block = 0; block < 16; block++) {
+            for (int processor = 0; processor < 4; processor++) {
+                due.same("state", bus.state(processor, block), state(processor, block));
+            }
+        }
     }
 
     private Copy access(int processor, int block, int kind) {
@@ -158,6 +182,6 @@ final class Model {
     }
 
     private void say(int kind, int processor, int block) {
-        bus.add(64 * kind + 16 * processor + block);
+        said.add(64 * kind + 16 * processor + block);
     }
 }

@@ -15,7 +15,7 @@ public final class EveryArrangementTest {
     private static final int WRITES = 16;
     private static final int EVICTIONS = 8;
     private static final int COMMANDS = READS + WRITES + EVICTIONS + 1;
-    // Counted by hand: each cache holds neither block, the one or the other. A block that n caches hold has 1 way
+    // Found by a run, then checked by hand: each cache holds neither block, the one or the other. A block that n caches hold has 1 way
     // if they must all be SHARED, 1 + n if one of them may be OWNED; held by one cache alone it has 2, 3, 4, 4 ways.
     private static final int[] ARRANGEMENTS = {157, 257, 773, 773};
 
